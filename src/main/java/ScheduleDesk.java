@@ -377,9 +377,7 @@ public final class ScheduleDesk {
             found++;
             more = tape.skips(';');
         }
-        tape.needEnd();
-        tape.length = 0;
-        if (tape.failed()) {
+        if (!tape.endsWell()) {
             return FAULTY - tape.fault;
         }
         book.gameCount += found;
@@ -387,16 +385,18 @@ public final class ScheduleDesk {
     }
 
     public int pick() {
-        int picked = readCondition();
-        return tape.failed() ? FAULTY - tape.fault : picked;
+        tape.rewind();
+        int picked = readEither(0);
+        return tape.endsWell() ? picked : FAULTY - tape.fault;
     }
 
     public int voidAll(int is) {
         if (!isChoice(is)) {
             return NONE;
         }
-        int picked = readCondition();
-        if (tape.failed()) {
+        tape.rewind();
+        int picked = readEither(0);
+        if (!tape.endsWell()) {
             return FAULTY - tape.fault;
         }
         int changed = 0;
@@ -595,15 +595,10 @@ public final class ScheduleDesk {
         return weight;
     }
 
-    /** The GAMES, as bits, of which the CONDITION on THE TAPE is so; nothing if it has a FAULT. */
-    private int readCondition() {
-        tape.rewind();
-        int picked = readEither(0);
-        tape.needEnd();
-        tape.length = 0;
-        return tape.failed() ? 0 : picked;
-    }
-
+    /**
+     * The GAMES, as bits, of which a part of the CONDITION on THE TAPE is so: reckoned while it is
+     * read, for all GAMES at once, so that no tree of it need be kept.
+     */
     private int readEither(int within) {
         int picked = readBoth(within);
         for (int k = 0; k < TAPE_ROOM && tape.skips('|'); k++) {
@@ -720,12 +715,19 @@ public final class ScheduleDesk {
         }
 
         long marginOf(int g) {
-            return Math.max(-capNow, Math.min(capNow, scored[g] - conceded[g]));
+            long margin = scored[g] - conceded[g];
+            if (margin > capNow) {
+                return capNow;
+            }
+            return margin < -capNow ? -capNow : margin;
         }
 
         /** 1, 0, -1: HOME won, DRAWN, AWAY won. */
         int outcomeOf(int g) {
-            return Long.compare(scored[g], conceded[g]);
+            if (scored[g] == conceded[g]) {
+                return 0;
+            }
+            return scored[g] > conceded[g] ? 1 : -1;
         }
 
         /** Who lost a GAME; of a DRAWN one no TEAM's number. */
@@ -1142,10 +1144,13 @@ public final class ScheduleDesk {
             }
         }
 
-        void needEnd() {
+        /** Ends a reading, whether it went well or not: THE TAPE is empty then. */
+        boolean endsWell() {
             if (at < length) {
                 failAt(at);
             }
+            length = 0;
+            return !failed();
         }
 
         int number(int figures) {
