@@ -119,7 +119,7 @@ public final class ScheduleDesk {
         if (!isAsked(model, day) || !book.hasTeam(i) || !book.hasTeam(j)) {
             return NO;
         }
-        rows.gather(book, model, day, NO_GAME, false);
+        gatherAsOf(model, day);
         return rows.cells[i][j];
     }
 
@@ -127,7 +127,7 @@ public final class ScheduleDesk {
         if (!isAsked(model, day) || !book.hasTeam(i)) {
             return NO;
         }
-        rows.gather(book, model, day, NO_GAME, false);
+        gatherAsOf(model, day);
         return rows.rights[i];
     }
 
@@ -135,7 +135,7 @@ public final class ScheduleDesk {
         if (!isAsked(model, day)) {
             return NO;
         }
-        rows.gather(book, model, day, NO_GAME, false);
+        gatherAsOf(model, day);
         return rows.determinant();
     }
 
@@ -143,7 +143,7 @@ public final class ScheduleDesk {
         if (!isAsked(model, day) || !book.hasTeam(i) || !book.hasTeam(j)) {
             return NO;
         }
-        rows.gather(book, model, day, NO_GAME, false);
+        gatherAsOf(model, day);
         return rows.cofactorAt(i, j);
     }
 
@@ -151,7 +151,7 @@ public final class ScheduleDesk {
         if (!isAsked(model, day) || !book.hasTeam(team) || !isChoice(part)) {
             return NO;
         }
-        rows.gather(book, model, day, NO_GAME, false);
+        gatherAsOf(model, day);
         return rows.ratingPart(team, part);
     }
 
@@ -159,8 +159,7 @@ public final class ScheduleDesk {
         if (!isAsked(model, day) || !book.hasTeam(k)) {
             return NONE;
         }
-        rows.gather(book, model, day, NO_GAME, false);
-        int found = rows.solve();
+        int found = solveAsOf(model, day);
         if (found != SOLVED) {
             return found;
         }
@@ -172,7 +171,7 @@ public final class ScheduleDesk {
         if (!isAsked(model, day) || !book.hasTeam(team) || !isChoice(part)) {
             return NO;
         }
-        rows.gather(book, model, day, NO_GAME, false);
+        gatherAsOf(model, day);
         return rows.schedulePart(team, part);
     }
 
@@ -180,7 +179,7 @@ public final class ScheduleDesk {
         if (!isAsked(model, day) || !book.areTwo(a, b)) {
             return NONE;
         }
-        rows.gather(book, model, day, NO_GAME, false);
+        gatherAsOf(model, day);
         if (rows.determinant() == 0) {
             return STATE;
         }
@@ -194,8 +193,7 @@ public final class ScheduleDesk {
         if (!isAsked(model, day)) {
             return NONE;
         }
-        rows.gather(book, model, day, NO_GAME, false);
-        int found = rows.solve();
+        int found = solveAsOf(model, day);
         if (found != SOLVED) {
             return found;
         }
@@ -240,8 +238,7 @@ public final class ScheduleDesk {
         if (!isAsked(model, day) || !book.hasGame(game)) {
             return NONE;
         }
-        rows.gather(book, model, day, NO_GAME, false);
-        int now = rows.solve();
+        int now = solveAsOf(model, day);
         standings.byRatings(rows);
         int firstNow = standings.order[0];
         rows.gather(book, model, day, game, false);
@@ -328,8 +325,7 @@ public final class ScheduleDesk {
         if (!isAsked(model, day) || !book.hasTeam(team)) {
             return NONE;
         }
-        rows.gather(book, model, day, NO_GAME, false);
-        int found = rows.solve();
+        int found = solveAsOf(model, day);
         if (found != SOLVED) {
             return found;
         }
@@ -341,8 +337,7 @@ public final class ScheduleDesk {
         if (!isAsked(model, day) || !book.hasTeam(k)) {
             return NONE;
         }
-        rows.gather(book, model, day, NO_GAME, false);
-        int found = rows.solve();
+        int found = solveAsOf(model, day);
         if (found != SOLVED) {
             return found;
         }
@@ -496,7 +491,7 @@ public final class ScheduleDesk {
         if (i < 0 || i >= shelf.sizes[list] - book.teamCount) {
             return BEYOND;
         }
-        rows.gather(book, model, day, NO_GAME, false);
+        gatherAsOf(model, day);
         return rows.firstWrongRow(shelf.held[list], i);
     }
 
@@ -536,6 +531,16 @@ public final class ScheduleDesk {
 
     private static boolean isList(int list) {
         return list >= 0 && list < LISTS;
+    }
+
+    private void gatherAsOf(int model, int day) {
+        rows.gather(book, model, day, NO_GAME, false);
+    }
+
+    /** SOLVED, or what is answered where there are no RANKS. */
+    private int solveAsOf(int model, int day) {
+        gatherAsOf(model, day);
+        return rows.solve();
     }
 
     /** Above over below in lowest terms; the line's lower side is 1 or more wherever it is asked. */
@@ -1015,10 +1020,8 @@ public final class ScheduleDesk {
             }
             tally.start();
             for (int j = 0; j < n; j++) {
-                // The top of one never met may be OVER, or was not found: it is not to be touched.
-                if (met[team][j] > 0) {
-                    tally.addProduct(met[team][j], tops[j]);
-                }
+                // Whatever stands as the top of one never met, even of an earlier call, comes to 0.
+                tally.addProduct(met[team][j], tops[j]);
             }
             return tally.isOver ? NO : partOf(tally.sum, det * below * played[team], part);
         }

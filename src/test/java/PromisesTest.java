@@ -472,9 +472,35 @@ public final class PromisesTest {
         due("told", x.told(4), 1);
         due("no game", x.told(1), 1);
         due("no matter to ratings", x.det(0, 99), 12);
+        dueNoMatter();
         due("another", x.guess(0, 1, 0, 0), 1);
         due("wrong one leaves it", x.guess(0, 0, 0, 0), -1);
         due("told", x.told(4), 1);
+    }
+
+    /** All that is told of rows, in one text. */
+    private static String rows(ScheduleDesk x) {
+        StringBuilder text = new StringBuilder();
+        x.list(0, 4);
+        for (int model = 0; model < 3; model++) {
+            text.append(x.det(model, 99)).append(' ').append(x.upsets(model, 99));
+            text.append(' ').append(x.upturns(model, 99, 2)).append(' ').append(x.judge(model, 99, 0, 0));
+            for (int i = 0; i < 3; i++) {
+                text.append(' ').append(x.matrix(model, 99, 0, i)).append(' ').append(x.right(model, 99, i));
+                text.append(' ').append(x.cofactor(model, 99, i, 0)).append(' ').append(x.rating(model, 99, i, 0));
+                text.append(' ').append(x.schedule(model, 99, i, 0)).append(' ').append(x.rank(model, 99, i));
+                text.append(' ').append(x.predict(model, 99, i, (i + 1) % 3)).append(' ').append(x.score(model, 99, i));
+                text.append(' ').append(x.place(model, 99, i)).append(' ').append(x.without(model, 99, 1, i, 0));
+            }
+        }
+        return text.append(' ').append(x.rings(99)).append(' ').append(x.beaten(99, 1, 2)).toString();
+    }
+
+    private static void dueNoMatter() {
+        ScheduleDesk x = ring();
+        String before = rows(x);
+        x.guess(2, 1, 88, 0);
+        due("whether all rows are as before", rows(x).equals(before) ? 1 : 0, 1);
     }
 
     private static void promise18() {
@@ -718,8 +744,8 @@ public final class PromisesTest {
         x.game(1, 0, 1, 0, 0, 1);
         x.game(1, 0, 0, 4, 0, 1);
         // SCORES 2, 2, 2, ratings by SMOOTH: of 2 and 0 above that of 1.
-        due("like scores: first by ranks", x.place(2, 0, 0), x.rank(2, 0, 0));
         due("like scores: last by ranks", x.place(2, 0, 2), 1);
+        due("like scores: first by ranks", x.place(2, 0, 0), x.rank(2, 0, 0));
         due("parted", new ScheduleDesk().place(1, 0, 0), -3);
         due("k", x.place(1, 0, 3), -1);
         due("k", x.place(1, 0, -1), -1);
@@ -813,12 +839,12 @@ public final class PromisesTest {
     private static void promise31() {
         promise = "31";
         ScheduleDesk x = forPicks();
-        String[] texts = {"home=0", "away>1", "for<5", "against=4", "day>20", "weight=1", "void=1", "void=0", "won=1",
+        String[] texts = {"home=0", "away>1", "for<5", "against=4", "against=5", "day>20", "weight=1", "void=1", "void=0", "won=1",
             "won=2", "won=0", "margin=-2", "margin<0", "margin>-1", "margin>9999", "margin=-0", "day=0010",
             "!home=0", "!!home=0", "home=0|home=1&away=9", "(home=0|home=1)&away=9", "home=0&away=1|home=3",
             "((((home=0))))", "!(!(home=0))", "!!!!home=0", "(home=1)|((home=2))&(!day=1)", "!(home=0)&!home=1",
             "!home=0&home=1"};
-        int[] picks = {1, 6, 6, 4, 12, 9, 2, 13, 9, 2, 4, 2, 2, 13, 8, 4, 1, 14, 1, 1, 0, 9, 1, 1, 1, 6, 12, 2};
+        int[] picks = {1, 6, 6, 4, 2, 12, 9, 2, 13, 9, 2, 4, 2, 2, 13, 8, 4, 1, 14, 1, 1, 0, 9, 1, 1, 1, 6, 12, 2};
         for (int i = 0; i < texts.length; i++) {
             due("pick() of " + texts[i], pick(x, texts[i]), picks[i]);
             due("the tape behind it", x.told(5), 0);
@@ -828,9 +854,9 @@ public final class PromisesTest {
         String[] faulty = {"", "x", "home", "homes=1", "hom", "Home=1", "home>", "home>=1", "home=x", "home=-", "home=--1",
             "home=12345", "home=1&", "home=1|", "home=1&&", "home=1)", "(home=1", "()", "!", "(", "(home=1))",
             "(((((home=0)))))", "!!!!!home=0", "((!(!home=0", "home=0 ", "=1", "home=1&day", "home=1&daz=", "home1",
-            "1=home", "home=1!day=1", "home=1(day=1)", "((((!home=0))))", "home=1;"};
+            "1=home", "home=1!day=1", "home=1(day=1)", "((((!home=0))))", "home=1;", "homez=1", "gome=1", "won=1z"};
         int[] faults = {0, 0, 4, 0, 0, 0, 5, 5, 5, 6, 6, 9, 7, 7, 7, 6, 7, 1, 1, 1, 8, 4, 4, 4, 6, 0, 10, 7, 4, 0, 6, 6,
-            4, 6};
+            4, 6, 0, 0, 5};
         for (int i = 0; i < faulty.length; i++) {
             due("pick() of " + faulty[i], pick(x, faulty[i]), -100 - faults[i]);
             due("the tape behind it", x.told(5), 0);
@@ -882,10 +908,10 @@ public final class PromisesTest {
         x.game(1, 0, 10, 909, 10, 2);
         x.game(1, 0, 10000, 1, 10, 2);
         x.game(1, 0, 1, 10000, 10, 2);
-        x.game(0, 2, 7, 70, 9, 1);
+        x.game(0, 2, 7, 9999, 9, 1);
         x.voids(2, 1);
         due("paper holds nothing yet", x.told(6), 0);
-        duePaper(x, "0-1:0-0@0;3-2:9999-1000@99x3;0-2:7-70@9");
+        duePaper(x, "0-1:0-0@0;3-2:9999-1000@99x3;0-2:7-9999@9");
         x.voids(0, 1);
         x.voids(2, 0);
         promise = "34";
@@ -894,7 +920,7 @@ public final class PromisesTest {
         due("behind it", x.paper(x.told(6)), -1);
         due("ahead of it", x.paper(-1), -1);
         promise = "33";
-        duePaper(x, "3-2:9999-1000@99x3;1-0:10-909@10x2;0-2:7-70@9");
+        duePaper(x, "3-2:9999-1000@99x3;1-0:10-909@10x2;0-2:7-9999@9");
         x.teams(6);
         for (int g = 0; g < 30; g++) {
             x.game(5, 4, 1234, 5678, 87, 3);
@@ -1046,9 +1072,9 @@ public final class PromisesTest {
         x.drop();
         x.guess(1, 2, 9, 9);
         x.clears();
-        x.fixture(1, 0);
+        x.fixture(0, 1);
         x.teams(6);
-        x.game(4, 5, 1, 1, 1, 1);
+        x.game(4, 5, 1, 1, 7, 3);
         due("undo", x.undo(), 3);
         due("n", x.told(0), 3);
         dueGame(x, 0, 0, 1, 2, 1, 1, 1, 0, 1);
@@ -1057,6 +1083,7 @@ public final class PromisesTest {
         due("guess", x.would(2, 99, 0, 0), would);
         due("fixtures", x.told(3), 1);
         due("the fixture", x.score(0, 0, 2), 1);
+        due("the fixture", x.score(0, 0, 0), 1);
         due("the fixture", x.score(0, 0, 1), 0);
         due("tape", x.told(5), 1);
         due("paper", x.told(6), 19);
