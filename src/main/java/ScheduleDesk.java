@@ -561,7 +561,11 @@ public final class ScheduleDesk {
 
     /** Reads a GAME into a slot that counts for nothing until the whole text has no FAULT. */
     private void readGame(int slot) {
-        int start = tape.at;
+        // Without room a GAME is at fault where it begins: no byte of it comes ahead of that place.
+        if (slot >= MOST_GAMES) {
+            tape.failAt(tape.at);
+            return;
+        }
         int home = readTeam(NONE);
         tape.need('-');
         int away = readTeam(home);
@@ -573,10 +577,6 @@ public final class ScheduleDesk {
         int day = tape.number(2);
         int weight = tape.skips('x') ? readWeight() : 1;
         if (tape.failed()) {
-            return;
-        }
-        if (slot >= MOST_GAMES) {
-            tape.failAt(start);
             return;
         }
         book.put(slot, home, away, forHome, against, day, weight);

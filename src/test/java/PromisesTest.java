@@ -804,21 +804,41 @@ public final class PromisesTest {
         promise30Room();
     }
 
+    /** Of a GAME without room the FAULT is where it begins, whatever is wrong within it or behind it. */
+    private static void dueNoRoom(ScheduleDesk x, String ahead, int begins) {
+        int games = x.told(1);
+        String whole = "0-1:1-1@11x2";
+        for (int length = 0; length <= whole.length(); length++) {
+            String text = ahead + whole.substring(0, length);
+            due("results() of " + text, results(x, text), -100 - begins);
+            due("results() of " + text + "z", results(x, text + "z"), -100 - begins);
+        }
+        String[] faulty = {"9", "0-0", "0-9:1-1@1", "0-1:12345-1@1", "0-1:1-1@123", "0-1:1-1@1x4", "0-1:1-1@1x0",
+            "0-1:1-1@1;", "0-1:1-1@1;9", ";", " 0-1:1-1@1"};
+        for (String text : faulty) {
+            due("results() of " + ahead + text, results(x, ahead + text), -100 - begins);
+        }
+        due("the tape behind it", x.told(5), 0);
+        due("the games behind it", x.told(1), games);
+    }
+
     private static void promise30Room() {
         ScheduleDesk x = new ScheduleDesk();
         for (int g = 0; g < 29; g++) {
             x.game(0, 1, 0, 0, 0, 1);
         }
         due("no room for the second", results(x, "0-1:1-1@1;0-1:1-1@1"), -110);
-        due("ahead of the byte behind", results(x, "0-1:1-1@1;0-1:1-1@1z"), -110);
-        due("behind the weight", results(x, "0-1:1-1@1;0-1:1-1@1x4"), -120);
-        due("a fault within it comes first", results(x, "0-1:1-1@1;0-0"), -112);
+        due("what is wrong ahead of it comes first", results(x, "0-1:1-1@1x4;0-1:1-1@1"), -110);
+        due("what is wrong ahead of it comes first", results(x, "0-0:1-1@1;0-1:1-1@1"), -102);
+        due("what is wrong ahead of it comes first", results(x, "0-1:1-1@1z;0-1:1-1@1"), -109);
+        dueNoRoom(x, "0-1:1-1@1;", 10);
         due("nothing came", x.told(1), 29);
         due("room for one", results(x, "1-0:1-2@3x2"), 1);
         dueGame(x, 29, 1, 0, 1, 2, 3, 2, 0, -1);
         x.guess(0, 1, 8, 8);
         x.voids(29, 1);
-        due("no room", results(x, "0-1:1-1@1"), -100);
+        dueNoRoom(x, "", 0);
+        due("no room", results(x, "0-1:1-1@1;0-1:1-1@1"), -100);
         due("the guess stays", x.would(2, 0, 0, 0), 0);
         due("void stays", x.of(29, 6), 1);
         x.drop();
