@@ -352,6 +352,64 @@ public final class PromisesTest {
         dueRating(y, 1, 99, 2, NO, NO);
     }
 
+    /**
+     * Six TEAMS, each met each once; those with lesser numbers WON, i by j less i of j. Without the last row
+     * the MATRIX is 6 times the unit one, less ones: MARGINS' RATING of i is RIGHT, 15 less 6 i, over 6.
+     */
+    private static ScheduleDesk roundOfSix() {
+        ScheduleDesk x = new ScheduleDesk();
+        x.teams(6);
+        for (int i = 0; i < 6; i++) {
+            for (int j = i + 1; j < 6; j++) {
+                x.game(i, j, j - i, 0, 0, 1);
+            }
+        }
+        return x;
+    }
+
+    private static void sixTeams() {
+        promise = "8 to 39 (six TEAMS)";
+        ScheduleDesk x = roundOfSix();
+        due("det of wins", x.det(0, 0), 65536);
+        due("det of margins", x.det(1, 0), 7776);
+        due("det of smooth", x.det(2, 0), 65536);
+        due("cofactor", x.cofactor(0, 0, 5, 5), 12288);
+        due("cofactor", x.cofactor(2, 0, 4, 5), 4096);
+        due("cofactor", x.cofactor(1, 0, 3, 5), 1296);
+        int[] tens = {2, 10, 10, 10, 10, 2};
+        int[] aboves = {1, 3, 1, 1, 3, 1};
+        for (int i = 0; i < 6; i++) {
+            int sign = i < 3 ? 1 : -1;
+            due("right", x.right(0, 0, i), 7 - 2 * i);
+            due("right", x.right(1, 0, i), i == 5 ? 0 : 15 - 6 * i);
+            due("right", x.right(2, 0, i), 15 - 6 * i);
+            dueRating(x, 0, 0, i, 13 - 2 * i, 16);
+            dueRating(x, 1, 0, i, 5 - 2 * i, 2);
+            dueRating(x, 2, 0, i, 15 - 6 * i, 8);
+            due("schedule", x.schedule(1, 0, i, 0), -sign * aboves[i]);
+            due("schedule", x.schedule(1, 0, i, 1), tens[i]);
+            due("rank", x.rank(1, 0, i), i);
+            due("place", x.place(0, 0, i), i);
+            due("score", x.score(2, 0, i), 10 - 2 * i);
+        }
+        due("upsets", x.upsets(1, 0), 0);
+        due("rings", x.rings(0), 0);
+        due("duels", x.duel(-1, 0), 15);
+        due("the last duel", x.duel(14, 1), 5);
+        x.list(0, 7);
+        x.set(0, 0, 2);
+        for (int i = 0; i < 6; i++) {
+            x.set(0, 1 + i, 5 - 2 * i);
+        }
+        due("judge", x.judge(1, 0, 0, 0), -5);
+        due("judge", x.judge(2, 0, 0, 0), 0);
+        x.set(0, 6, -4);
+        due("judge", x.judge(1, 0, 0, 0), 0);
+        x.list(0, 7);
+        x.set(0, 2, NO);
+        due("the least long with the other sign", x.judge(1, 0, 0, 0), -6);
+    }
+
     private static void promise13() {
         promise = "13";
         ScheduleDesk x = pair();
@@ -452,6 +510,13 @@ public final class PromisesTest {
         due("day", x.upsets(0, 100), -1);
         due("over", overOfTwo().upsets(2, 99), -6);
         due("parted ahead of over", overOfTwo().upsets(1, 99), -3);
+        x.teams(2);
+        x.game(1, 0, 0, 1, 0, 1);
+        x.game(1, 0, 9, 0, 1, 3);
+        due("the first GAME", x.upsets(0, 1), 1);
+        x.game(0, 1, 1, 0, 1, 1);
+        x.drop();
+        due("a dropped one", x.upsets(0, 1), 1);
     }
 
     private static void promise17() {
@@ -620,6 +685,12 @@ public final class PromisesTest {
         due("i", x.duel(-2, 0), -1);
         due("what", x.duel(0, 4), -1);
         due("what", x.duel(0, -1), -1);
+        x.drop();
+        due("without the dropped one", x.duel(0, 2), 1);
+        x.drop();
+        due("without the dropped one", x.duel(-1, 0), 1);
+        x.game(1, 2, 0, 0, 0, 1);
+        due("by their first GAMES", x.duel(1, 1), 2);
     }
 
     private static void promise22() {
@@ -636,6 +707,9 @@ public final class PromisesTest {
         due("more", x.beaten(8, 0, 1), 1);
         x.voids(3, 1);
         due("void", x.beaten(8, 0, 1), -5);
+        x.game(0, 1, 1, 0, 0, 1);
+        x.drop();
+        due("a dropped one", x.beaten(8, 0, 1), -5);
         due("one twice", x.beaten(5, 1, 1), -1);
         due("a", x.beaten(5, 2, 1), -1);
         due("a", x.beaten(5, -1, 1), -1);
@@ -663,6 +737,20 @@ public final class PromisesTest {
         x.game(1, 3, 1, 0, 0, 1);
         due("two", x.rings(0), 2);
         due("of two teams none", pair().rings(99), 0);
+        x.teams(3);
+        int[] firsts = {0, 1, 2};
+        for (int first : firsts) {
+            x.game(first, (first + 1) % 3, 1, 0, 0, 1);
+        }
+        due("again one", x.rings(0), 1);
+        for (int first : firsts) {
+            x.game(first, (first + 1) % 3, 0, 1, 1, 1);
+            due("two as much as each other: none", x.rings(1), 0);
+            x.drop();
+            x.game(first, (first + 1) % 3, 0, 1, 1, 2);
+            due("one that goes both ways: none", x.rings(1), 0);
+            x.drop();
+        }
     }
 
     private static void promise24() {
@@ -679,6 +767,13 @@ public final class PromisesTest {
         due("FULL", x.fixture(0, 1), -4);
         due("NONE ahead of FULL", x.fixture(0, 0), -1);
         due("twelve", x.told(3), 12);
+        x.teams(6);
+        x.fixture(4, 5);
+        x.fixture(2, 5);
+        int[] scores = {0, 0, 1, 0, 1, 2};
+        for (int team = 0; team < 6; team++) {
+            due("who meets whom: " + team, x.score(0, 0, team), scores[team]);
+        }
     }
 
     private static void promise25() {
@@ -917,6 +1012,11 @@ public final class PromisesTest {
         due("the tape is empty", x.told(5), 0);
         due("NONE of an empty tape", x.voidAll(2), -1);
         due("an empty tape", x.voidAll(0), -100);
+        due("within 4 others", voidAll(x, "!(!(day=10))", 0), 1);
+        due("a fifth of them", voidAll(x, "!(!(!day=10))", 1), -104);
+        due("within 3 others", voidAll(x, "((((day=10))))", 1), 1);
+        x.drop();
+        due("a dropped one", voidAll(x, "day=40", 0), 0);
     }
 
     private static void promise33And34() {
@@ -973,6 +1073,16 @@ public final class PromisesTest {
         x.voids(3, 1);
         due("void ones have their days, too", x.told(8), 40);
         due("void ones have their days, too", x.told(7), 4);
+        x.drop();
+        x.drop();
+        due("games", x.told(1), 3);
+        due("void ones but for dropped ones", x.told(2), 1);
+        due("days but for dropped ones", x.told(7), 3);
+        due("the greatest but for dropped ones", x.told(8), 30);
+        x.teams(2);
+        x.game(0, 1, 0, 0, 9, 1);
+        x.game(0, 1, 0, 0, 8, 1);
+        due("the greatest of the first GAME", x.told(8), 9);
     }
 
     private static void promise36To38() {
@@ -1140,6 +1250,7 @@ public final class PromisesTest {
         promise10();
         promise11();
         promise12();
+        sixTeams();
         promise13();
         promise14();
         promise15();
