@@ -892,47 +892,54 @@ public final class PromisesTest {
         int[] faults = {0, 0, 1, 0, 2, 2, 2, 1, 3, 4, 4, 5, 8, 6, 10, 7, 8, 8, 10, 10, 10, 10, 11, 10, 10, 19, 12,
             0, 3, 9, 0, 10};
         for (int i = 0; i < faulty.length; i++) {
-            due("results() of " + faulty[i], results(x, faulty[i]), -100 - faults[i]);
-            due("the tape behind it", x.told(5), 0);
-            due("the games behind it", x.told(1), 2);
+            ScheduleDesk y = new ScheduleDesk();
+            y.game(0, 1, 0, 0, 0, 1);
+            due("results() of " + faulty[i], results(y, faulty[i]), -100 - faults[i]);
+            due("the tape behind it", y.told(5), 0);
+            due("the games behind it", y.told(1), 1);
         }
         promise30Room();
     }
 
+    private static ScheduleDesk withGames(int games) {
+        ScheduleDesk x = new ScheduleDesk();
+        for (int g = 0; g < games; g++) {
+            x.game(0, 1, 0, 0, 0, 1);
+        }
+        return x;
+    }
+
     /** Of a GAME without room the FAULT is where it begins, whatever is wrong within it or behind it. */
-    private static void dueNoRoom(ScheduleDesk x, String ahead, int begins) {
-        int games = x.told(1);
+    private static void dueNoRoom(int games, String ahead, int begins) {
         String whole = "0-1:1-1@11x2";
         for (int length = 0; length <= whole.length(); length++) {
             String text = ahead + whole.substring(0, length);
-            due("results() of " + text, results(x, text), -100 - begins);
-            due("results() of " + text + "z", results(x, text + "z"), -100 - begins);
+            due("results() of " + text, results(withGames(games), text), -100 - begins);
+            due("results() of " + text + "z", results(withGames(games), text + "z"), -100 - begins);
         }
         String[] faulty = {"9", "0-0", "0-9:1-1@1", "0-1:12345-1@1", "0-1:1-1@123", "0-1:1-1@1x4", "0-1:1-1@1x0",
             "0-1:1-1@1;", "0-1:1-1@1;9", ";", " 0-1:1-1@1"};
         for (String text : faulty) {
+            ScheduleDesk x = withGames(games);
             due("results() of " + ahead + text, results(x, ahead + text), -100 - begins);
+            due("the tape behind it", x.told(5), 0);
+            due("the games behind it", x.told(1), games);
         }
-        due("the tape behind it", x.told(5), 0);
-        due("the games behind it", x.told(1), games);
     }
 
     private static void promise30Room() {
-        ScheduleDesk x = new ScheduleDesk();
-        for (int g = 0; g < 29; g++) {
-            x.game(0, 1, 0, 0, 0, 1);
-        }
+        dueNoRoom(29, "0-1:1-1@1;", 10);
+        dueNoRoom(30, "", 0);
+        ScheduleDesk x = withGames(29);
         due("no room for the second", results(x, "0-1:1-1@1;0-1:1-1@1"), -110);
         due("what is wrong ahead of it comes first", results(x, "0-1:1-1@1x4;0-1:1-1@1"), -110);
         due("what is wrong ahead of it comes first", results(x, "0-0:1-1@1;0-1:1-1@1"), -102);
         due("what is wrong ahead of it comes first", results(x, "0-1:1-1@1z;0-1:1-1@1"), -109);
-        dueNoRoom(x, "0-1:1-1@1;", 10);
         due("nothing came", x.told(1), 29);
         due("room for one", results(x, "1-0:1-2@3x2"), 1);
         dueGame(x, 29, 1, 0, 1, 2, 3, 2, 0, -1);
         x.guess(0, 1, 8, 8);
         x.voids(29, 1);
-        dueNoRoom(x, "", 0);
         due("no room", results(x, "0-1:1-1@1;0-1:1-1@1"), -100);
         due("the guess stays", x.would(2, 0, 0, 0), 0);
         due("void stays", x.of(29, 6), 1);
@@ -961,8 +968,9 @@ public final class PromisesTest {
             "!home=0&home=1"};
         int[] picks = {1, 6, 6, 4, 2, 12, 9, 2, 13, 9, 2, 4, 2, 2, 13, 8, 4, 1, 14, 1, 1, 0, 9, 1, 1, 1, 6, 12, 2};
         for (int i = 0; i < texts.length; i++) {
-            due("pick() of " + texts[i], pick(x, texts[i]), picks[i]);
-            due("the tape behind it", x.told(5), 0);
+            ScheduleDesk y = forPicks();
+            due("pick() of " + texts[i], pick(y, texts[i]), picks[i]);
+            due("the tape behind it", y.told(5), 0);
         }
         x.cap(1);
         due("margins are capped", pick(x, "margin=1"), 9);
@@ -973,10 +981,11 @@ public final class PromisesTest {
         int[] faults = {0, 0, 4, 0, 0, 0, 5, 5, 5, 6, 6, 9, 7, 7, 7, 6, 7, 1, 1, 1, 8, 4, 4, 4, 6, 0, 10, 7, 4, 0, 6, 6,
             4, 6, 0, 0, 5};
         for (int i = 0; i < faulty.length; i++) {
-            due("pick() of " + faulty[i], pick(x, faulty[i]), -100 - faults[i]);
-            due("the tape behind it", x.told(5), 0);
+            ScheduleDesk y = forPicks();
+            due("pick() of " + faulty[i], pick(y, faulty[i]), -100 - faults[i]);
+            due("the tape behind it", y.told(5), 0);
         }
-        promise31Deep(x);
+        promise31Deep(forPicks());
         x.teams(2);
         due("of no games", pick(x, "!home=9"), 0);
         for (int g = 0; g < 30; g++) {
