@@ -71,6 +71,16 @@ public final class BoundariesTest {
         return Desks.productOf256(EDGE);
     }
 
+    private void calls() {
+        of("An object is used for at most 512 calls after it has been made; what later calls answer is free.");
+        ScheduleDesk x = new ScheduleDesk();
+        for (int call = 1; call <= 510; call++) {
+            due("call " + call, call % 2 == 1 ? x.feed('!') : x.clear(), 1);
+        }
+        due("call 511", x.game(0, 1, 1, 0, 0, 1), 0);
+        due("call 512", x.rating(2, 0, 0, 0), 1);
+    }
+
     private void answers() {
         of("Answers: NONE (-1) no such number; BAD (-2) a number is not as told; STATE (-3) as told; FULL (-4);");
         due("NONE", ScheduleDesk.NONE, -1);
@@ -409,9 +419,20 @@ public final class BoundariesTest {
             due("the last", x.of(left, 2), NO);
             due("the one ahead", x.of(left - 1, 2), left == 0 ? NO : left - 1);
         }
+        for (int k = 0; k < 12; k++) {
+            x = Desks.busy();
+            due("another GAME", x.game(k / 2 % 3, (k / 2 + 1 + k % 2) % 3, k, 11 - k, 99, 3), 4);
+            x.voids(4, k / 6);
+            due("drop()", x.drop(), 4);
+            document.same("no matter to what is asked", Desks.games(x, 99), Desks.games(Desks.busy(), 99));
+            document.same("no matter to all else", Desks.told(x), Desks.told(Desks.busy()));
+        }
         of("STATE: there is none.");
-        due("drop()", x.drop(), -3);
-        due("of a new object", new ScheduleDesk().drop(), -3);
+        x = new ScheduleDesk();
+        due("of a new object", x.drop(), -3);
+        x.game(0, 1, 0, 0, 0, 1);
+        due("the only one", x.drop(), 0);
+        due("none any more", x.drop(), -3);
 
         promise(8);
         of("MATRIX at i, j.");
@@ -544,6 +565,11 @@ public final class BoundariesTest {
         due("another", x.guess(1, 0, 0, 6), 1);
         due("what WOULD be", x.would(1, 0, 0, 0), 3);
         due("whether there is one", x.told(4), 1);
+        for (int k = 0; k < 6; k++) {
+            x = Desks.busy();
+            x.guess(k / 2, (k / 2 + 1 + k % 2) % 3, 900, k);
+            document.same("no matter to GAMES", Desks.games(x, 99), Desks.games(Desks.busy(), 99));
+        }
         of("NONE: home, away;");
         dueEnds(-1, ints(1), ints(3), n -> new ScheduleDesk().guess(n[0], n[0] == 0 ? 1 : 0, 0, 0));
         dueEnds(-1, ints(1), ints(3), n -> new ScheduleDesk().guess(n[0] == 0 ? 1 : 0, n[0], 0, 0));
@@ -634,6 +660,7 @@ public final class BoundariesTest {
         due("of a VOID one", x.upturns(1, 6, 1), 0);
         ScheduleDesk y = Desks.of(2);
         y.game(1, 0, 1, 0, 0, 1);
+        y.guess(1, 0, 9, 0);
         due("alike then: the least is the first", y.upturns(2, 0, 0), 1);
         y.game(0, 1, 3, 0, 0, 1);
         due("0 now, 1 then", y.upturns(2, 0, 1), 1);
@@ -923,6 +950,9 @@ public final class BoundariesTest {
         due("unlike DAYS", x.told(7), 2);
         x.drop();
         x.drop();
+        x.game(0, 1, 0, 0, 4, 1);
+        due("the DAY of the first GAME", x.told(8), 5);
+        x.drop();
         x.drop();
         due("no GAMES", x.told(8), -1);
         due("no GAMES", x.told(7), 0);
@@ -1097,6 +1127,8 @@ public final class BoundariesTest {
     public static void main(String[] args) throws IOException {
         Sentences document = new Sentences();
         BoundariesTest test = new BoundariesTest(document);
+        document.part("What it is", "An object is used", "## The public face");
+        test.calls();
         document.part("Terms", "Answers: ", "## Promise 1:");
         test.answers();
         test.refused();

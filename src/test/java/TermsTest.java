@@ -472,6 +472,13 @@ public final class TermsTest {
         x.voids(1, 0);
         x.game(1, 0, 1, 0, 5, 1);
         due("alike by WINS: 3 WON, and 3 lost", x.upsets(0, 5), 0);
+        x = Desks.of(2);
+        x.game(1, 0, 1, 0, 0, 1);
+        x.game(0, 1, 9, 0, 0, 3);
+        due("the first GAME", x.upsets(2, 0), 1);
+        x.game(1, 0, 1, 0, 0, 1);
+        x.drop();
+        due("but for the dropped one", x.upsets(2, 0), 1);
     }
 
     private void wouldAndWithout() {
@@ -511,6 +518,8 @@ public final class TermsTest {
             ScheduleDesk whole = Desks.three();
             ScheduleDesk other = Desks.three();
             other.voids(g, 1);
+            // THE GUESS is no matter here.
+            whole.guess(0, 1, 0, 99);
             for (int team = 0; team < 3; team++) {
                 for (int part = 0; part < 2; part++) {
                     due("WITHOUT " + g, whole.without(2, 6, g, team, part), other.rating(2, 6, team, part));

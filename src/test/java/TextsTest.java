@@ -239,6 +239,9 @@ public final class TextsTest {
                 (isNot ? 0x0F : 0xF0) | (opened.charAt(0) == '!' ? 0xF0 : 0x0F));
             duePick(whole + "&" + opened + fifth + "day=0", -101 - whole.length() - 4);
         }
+        due("voidAll within 4", Desks.voidAll(bits(), "!!!!day=1", 1), 4);
+        due("voidAll within 4 others", Desks.voidAll(bits(), "!!!!!day=1", 1), -104);
+        due("voidAll within 3 others", Desks.voidAll(bits(), "((((day=1))))", 1), 4);
         duePick("(((!day=1&(day=0))))", 0x0F);
         duePick("(((!day=1&!!day=0)))", -111);
         duePick("(((!(day=1))))", -104);
@@ -574,6 +577,13 @@ public final class TextsTest {
         for (long[] s : sums) {
             due("the sum of " + s[0] + " and " + s[1], judged(Desks.pair(), 1, 4, 0, 0, s[0], s[1]), s[2]);
         }
+        // MATRIX 1, -1 at row 0.
+        ScheduleDesk one = Desks.of(2);
+        one.game(0, 1, 0, 0, 0, 1);
+        due("the least long with the other sign", judged(one, 1, 0, 0, 0, 0, NO), -6);
+        due("the next one with the other sign", judged(one, 1, 0, 0, 0, 0, NO + 1), 0);
+        due("the least long", judged(one, 1, 0, 0, 0, NO, 0), 0);
+        due("all sums are within", judged(one, 1, 0, 0, 0, most, most), -6);
         due("a sum so far", judged(Desks.of(3), 1, 0, 0, 0, most, 1, -2), -6);
         due("the same, in another order", judged(Desks.of(3), 1, 0, 0, 0, most, -2, 1), 2);
         due("a row that is wrong ahead of one beyond", judged(Desks.pair(), 2, 4, 0, 0, 1, half), 0);

@@ -159,10 +159,40 @@ final class Desks {
         }
         text.append(" SCORES");
         for (int team = 0; team < x.told(0); team++) {
-            text.append(' ').append(x.score(0, 99, team));
+            text.append(' ').append(x.score(0, 99, team)).append(' ').append(x.score(0, 0, team));
         }
         long cap = x.cap(0);
         x.cap(cap);
         return text.append(" CAP ").append(cap).toString();
+    }
+
+    /** What GAMES come to: all that is asked of them as of a DAY, but for WOULD. */
+    static String games(ScheduleDesk x, int day) {
+        StringBuilder text = new StringBuilder("GAMES");
+        for (int model = 0; model < 3; model++) {
+            text.append(" MODEL ").append(x.det(model, day)).append(' ').append(x.upsets(model, day));
+            for (int i = 0; i < x.told(0); i++) {
+                text.append(' ').append(x.right(model, day, i)).append(' ').append(x.matrix(model, day, i, 0));
+                text.append(' ').append(x.rating(model, day, i, 0)).append('/').append(x.rating(model, day, i, 1));
+                text.append(' ').append(x.schedule(model, day, i, 0)).append('/').append(x.schedule(model, day, i, 1));
+                text.append(' ').append(x.rank(model, day, i)).append(' ').append(x.place(model, day, i));
+                text.append(' ').append(x.score(model, day, i)).append(' ').append(x.upturns(model, day, i));
+                text.append(' ').append(x.without(model, day, 0, i, 0)).append(' ').append(x.cofactor(model, day, i, 0));
+            }
+        }
+        text.append(" DUELS");
+        for (int i = 0; i < x.duel(-1, 0); i++) {
+            for (int what = 0; what < 4; what++) {
+                text.append(' ').append(x.duel(i, what));
+            }
+        }
+        text.append(" RINGS ").append(x.rings(day));
+        for (int i = 1; i < x.told(0); i++) {
+            text.append(' ').append(x.beaten(day, i - 1, i));
+        }
+        for (int what = 0; what < 9; what++) {
+            text.append(' ').append(x.told(what));
+        }
+        return text.toString();
     }
 }
